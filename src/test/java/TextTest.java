@@ -1,0 +1,168 @@
+/** Promises 6, 9 and 10: the text, and the game that is read from it. */
+public final class TextTest {
+    private static final Checks CHECKS = new Checks("TextTest");
+
+    private TextTest() {
+    }
+
+    private static void due(String call, long got, long want) {
+        CHECKS.due(call, got, want);
+    }
+
+    public static void main(String[] args) {
+        type();
+        clearText();
+        goodTexts();
+        faults();
+        faultOfEachSign();
+        whatIsRead();
+        whatStays();
+        faultsChangeNothing();
+        longTexts();
+        CHECKS.end();
+    }
+
+    private static void type() {
+        CheapProofs x = new CheapProofs();
+        for (int i = 1; i <= 60; i++) {
+            due("type", x.type((char) (i * 1000)), i);
+        }
+        due("type full", x.type('0'), -3);
+        due("type full again", x.type((char) 0), -3);
+        due("length", x.count(10), 60);
+        due("no state of the text", x.count(9), 0);
+        due("clear", x.clearText(), 60);
+        due("type", x.type((char) 65535), 1);
+    }
+
+    private static void clearText() {
+        CheapProofs x = new CheapProofs();
+        due("clear empty", x.clearText(), 0);
+        Checks.typeAll(x, "0w");
+        due("clear", x.clearText(), 2);
+        due("length", x.count(10), 0);
+        due("clear again", x.clearText(), 0);
+        due("read empty", x.readGame(), -100);
+        due("no state of the text", x.count(9), 0);
+    }
+
+    private static int read(String text) {
+        CheapProofs x = new CheapProofs();
+        Checks.typeAll(x, text);
+        return x.readGame();
+    }
+
+    private static void goodTexts() {
+        due("0w", read("0w"), 0);
+        due("19l", read("19l"), 0);
+        due("9d", read("9d"), 0);
+        due("0>0", read("0>0"), 1);
+        due("0>1.2.19", read("0>1.2.19"), 3);
+        due("0>10.1", read("0>10.1"), 2);
+        due("0>1.1,0>1", read("0>1.1,0>1"), 1);
+        due("10>11,1>0,0w,0l", read("10>11,1>0,0w,0l"), 2);
+        due("0>2,0>3,0d,0d", read("0>2,0>3,0d,0d"), 2);
+    }
+
+    private static void faults() {
+        String[] texts = {"", ",", "w", "x", "0", "00w", "05>1", "20w", "1", "12", "123w", "0>", "0>w", "0>1w",
+            "0>1.", "0>1..2", "0>1,", "0>1,,", "0>1.20", "0>1.01", "0>1>2", "0w.1", "0ww", "0w0", "0w,", "0w,x",
+            "0 w", " 0w", "0W", "0>1 ", "0>19.191w", "0>-1", "30w", "99w", "0d>1", "/w", ":w", "1/w", "1:w"};
+        int[] faults = {0, 0, 0, 0, 1, 1, 1, 1, 1, 2, 2, 2, 2, 3,
+            4, 4, 4, 4, 5, 5, 3, 2, 2, 2, 3, 3,
+            1, 0, 1, 3, 7, 2, 1, 1, 2, 0, 0, 1, 1};
+        for (int i = 0; i < texts.length; i++) {
+            due("fault of " + texts[i], read(texts[i]), -100 - faults[i]);
+        }
+    }
+
+    /** At each place of a text, each sign that is not allowed there is its fault. */
+    private static void faultOfEachSign() {
+        String[] places = {"", "0", "1", "12", "0>", "0>0", "0>1", "0>12", "0w", "0>1.", "0w,"};
+        String[] allowed = {"0123456789", "wld>", "wld>0123456789", "wld>", "0123456789", ".,", ".,0123456789", ".,",
+            ",", "0123456789", "0123456789"};
+        for (int i = 0; i < places.length; i++) {
+            CheapProofs x = new CheapProofs();
+            for (char sign = 0; sign < 400; sign++) {
+                if (allowed[i].indexOf(sign) < 0) {
+                    x.clearText();
+                    Checks.typeAll(x, places[i] + sign + "0w");
+                    due(places[i] + " and sign " + (int) sign, x.readGame(), -100 - places[i].length());
+                }
+            }
+        }
+    }
+
+    private static void whatIsRead() {
+        CheapProofs x = new CheapProofs();
+        x.addMove(3, 4);
+        x.setPosition(3, 1, 1);
+        x.setPosition(5, 0, 2);
+        x.guess(3, 7, 8);
+        Checks.typeAll(x, "1>2.10.1,2w,2l,4l,4w,10d,1>10.3,6>1");
+        due("read", x.readGame(), 5);
+        due("moves", x.count(0), 5);
+        int[] moves = {2, 10, 1, 3, -5};
+        for (int rank = 0; rank < moves.length; rank++) {
+            due("move " + rank, x.move(1, rank), moves[rank]);
+        }
+        due("the other one", x.move(6, 0), 1);
+        due("old move is gone", x.position(3, 4), 0);
+        due("old mark is gone", x.position(3, 1), 0);
+        due("old turn is gone", x.position(3, 0), 0);
+        due("old mark is gone", x.position(5, 1), 0);
+        due("guess stays", x.position(3, 2), 7);
+        due("guess stays", x.position(3, 3), 8);
+        due("later mark", x.position(2, 1), 2);
+        due("later mark", x.position(4, 1), 1);
+        due("turn", x.position(10, 0), 1);
+        due("turn of others", x.position(1, 0), 0);
+    }
+
+    private static void whatStays() {
+        CheapProofs x = Checks.gameOf("0>1,1w");
+        Checks.typeAll(x, "0>1,1w");
+        x.begin(0);
+        due("read the same", x.readGame(), 1);
+        due("no tree then", x.count(1), 0);
+        due("it is recorded", x.count(9), 3);
+        due("the text stays", x.count(10), 6);
+        due("read again", x.readGame(), 1);
+        due("it is recorded", x.count(9), 4);
+        due("undo", x.undo(), 3);
+        due("undo", x.undo(), 2);
+        due("the tree is back", x.count(1), 1);
+        due("the text stays", x.count(10), 6);
+    }
+
+    private static void faultsChangeNothing() {
+        CheapProofs x = Checks.gameOf("0>1,1w,2d");
+        x.begin(0);
+        Checks.typeAll(x, "0l,0d,5>6.7,8w,9");
+        due("fault", x.readGame(), -116);
+        due("nothing is recorded", x.count(9), 2);
+        due("moves", x.count(0), 1);
+        due("mark", x.position(0, 1), 0);
+        due("mark", x.position(1, 1), 1);
+        due("turn", x.position(2, 0), 1);
+        due("mark", x.position(8, 1), 0);
+        due("tree", x.count(1), 1);
+        due("text", x.count(10), 16);
+        Checks.typeAll(x, "w,9>9");
+        due("read now", x.readGame(), 3);
+        due("mark", x.position(1, 1), 0);
+    }
+
+    private static void longTexts() {
+        String most = "0>0.1.2.3.4.5.6.7.8.9,1>0.1.2.3.4.5.6.7.8.9,2>1.2.3.4.5.6.7w";
+        due("the length", most.length(), 60);
+        due("fault at the end", read(most), -159);
+        due("59 signs", read(most.substring(0, 59)), 27);
+        due("60 signs", read(most.substring(0, 58) + "17"), 27);
+        due("signs behind are not typed", read(most.substring(0, 58) + "17xyz"), 27);
+        due("60 signs, ends too early", read(most.substring(0, 59) + "."), -160);
+        due("60 signs, ends too early", read(most.substring(0, 59) + ","), -160);
+        due("ends too early", read("0w," + "0w,".repeat(19)), -160);
+        due("20 entries", read("0w," + "0w,".repeat(18) + "19w"), 0);
+    }
+}
