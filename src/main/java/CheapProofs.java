@@ -882,12 +882,13 @@ public final class CheapProofs {
             }
         }
 
+        /** Brings the object of the oldest state to the end, where it is used again. */
         private void dropOldest() {
-            State oldest = stateAt(0);
             for (int i = 1; i < states.length; i++) {
+                State older = states[i - 1];
                 states[i - 1] = states[i];
+                states[i] = older;
             }
-            states[states.length - 1] = oldest;
             size--;
         }
     }
@@ -896,16 +897,18 @@ public final class CheapProofs {
     private static final class Text {
         private static final int END = -1;
 
-        private final Row signs = new Row(MOST_SIGNS);
+        private final char[] signs = new char[MOST_SIGNS];
         private int length;
 
         boolean isFull() {
-            return length >= MOST_SIGNS;
+            return length >= signs.length;
         }
 
         void append(char sign) {
-            signs.set(length, sign);
-            length++;
+            if (length >= 0 && length < signs.length) {
+                signs[length] = sign;
+                length++;
+            }
         }
 
         void clear() {
@@ -913,7 +916,7 @@ public final class CheapProofs {
         }
 
         int signAt(int index) {
-            return index >= 0 && index < length ? signs.get(index) : END;
+            return index >= 0 && index < length && index < signs.length ? signs[index] : END;
         }
     }
 
@@ -935,7 +938,7 @@ public final class CheapProofs {
                 if (!readEntry()) {
                     return at;
                 }
-                if (sign() == Text.END) {
+                if (text.signAt(at) == Text.END) {
                     return NO_FAULT;
                 }
                 if (!skip(',')) {
@@ -997,16 +1000,12 @@ public final class CheapProofs {
         }
 
         private int digit() {
-            int sign = sign();
+            int sign = text.signAt(at);
             return sign >= '0' && sign <= '9' ? sign - '0' : NONE;
         }
 
-        private int sign() {
-            return text.signAt(at);
-        }
-
         private boolean skip(char wanted) {
-            if (sign() != wanted) {
+            if (text.signAt(at) != wanted) {
                 return false;
             }
             at++;

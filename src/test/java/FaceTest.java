@@ -83,9 +83,8 @@ public final class FaceTest {
     }
 
     private static void words(String code) {
-        String[] refused = {"throw", "throws", "try", "catch", "synchronized", "assert", "import", "package", "var",
-            "->", "::", "Object", "Random", "hashCode", "toString",
-            "Exception", "Override"};
+        String[] refused = {"throw", "throws", "try", "catch", "synchronized", "assert", "import", "package", "var", "->",
+            "::", "Object", "Random", "hashCode", "toString", "Exception", "Override"};
         for (String word : refused) {
             boolean isName = Character.isLetter(word.charAt(0));
             Matcher m = Pattern.compile(isName ? "\\b" + word + "\\b" : word).matcher(code);

@@ -14,6 +14,7 @@ public final class HistoryTest {
         fourStates();
         oldestIsDropped();
         undoOfTree();
+        undoOfEachNode();
         keepAndRestore();
         restoreBringsTheTree();
         snapshotStays();
@@ -109,6 +110,53 @@ public final class HistoryTest {
         due("the tree is back", x.count(1), 4);
         due("proved", x.count(4), 1);
         due("size", x.proofSize(), 3);
+    }
+
+    /** Two trees whose nodes of one number differ in all that is told: undo brings the former one back whole. */
+    private static void undoOfEachNode() {
+        CheapProofs x = Checks.gameOf("0>1,1>0.2,2>3,3>4,9d,9>8.7.6,8>9,6>5");
+        x.guess(1, 3, 4);
+        x.guess(7, 2, 2);
+        x.begin(0);
+        x.open(3);
+        int[] former = told(x);
+        x.begin(9);
+        x.open(2);
+        int[] latter = told(x);
+        due("undo", x.undo(), 3);
+        due("undo", x.undo(), 2);
+        same("undo", former, told(x));
+        x.keep();
+        x.begin(9);
+        x.open(2);
+        same("the other one", latter, told(x));
+        x.restore();
+        same("restore", former, told(x));
+        x.undo();
+        same("undo of restore", latter, told(x));
+        int unlike = 0;
+        for (int what = 0; what < 8; what++) {
+            boolean differs = false;
+            for (int node = 0; node < 5; node++) {
+                differs |= former[node * 8 + what] != latter[node * 8 + what];
+            }
+            unlike += differs ? 1 : 0;
+        }
+        due("numbers in which the trees differ", unlike, 8);
+    }
+
+    private static int[] told(CheapProofs x) {
+        int[] told = new int[10 * 8];
+        for (int i = 0; i < told.length; i++) {
+            told[i] = x.node(i / 8, i % 8);
+        }
+        return told;
+    }
+
+    private static void same(String call, int[] wants, int[] told) {
+        for (int i = 0; i < wants.length; i++) {
+            due(call + ": node(" + i / 8 + ", " + i % 8 + ")", told[i], wants[i]);
+        }
     }
 
     private static void keepAndRestore() {

@@ -16,6 +16,7 @@ public final class ProofTest {
         disproved();
         rowOfAnswers();
         rootAlone();
+        proofAfterProof();
         wrong();
         CHECKS.end();
     }
@@ -81,6 +82,17 @@ public final class ProofTest {
         x.begin(1);
         played(x, 5, 0, 1, 0);
         due("size", x.proofSize(), 1);
+    }
+
+    private static void proofAfterProof() {
+        CheapProofs x = Checks.gameOf("0d,0>1.2.3,1w,2w,3w,4>1.2.3.5");
+        x.begin(0);
+        x.open(1);
+        due("size", x.proofSize(), 4);
+        due("size again", x.proofSize(), 4);
+        x.begin(4);
+        x.open(1);
+        due("size of the next one", x.proofSize(), 2);
     }
 
     private static void wrong() {

@@ -117,6 +117,13 @@ public final class TextTest {
         due("later mark", x.position(4, 1), 1);
         due("turn", x.position(10, 0), 1);
         due("turn of others", x.position(1, 0), 0);
+        x.clearText();
+        Checks.typeAll(x, "1>4");
+        due("read another", x.readGame(), 1);
+        due("the turn of the former text is gone", x.position(10, 0), 0);
+        due("the mark of the former text is gone", x.position(4, 1), 0);
+        due("the moves of the former text are gone", x.position(6, 4), 0);
+        due("move", x.move(1, 0), 4);
     }
 
     private static void whatStays() {

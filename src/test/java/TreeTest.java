@@ -175,6 +175,17 @@ public final class TreeTest {
         due("nodes", y.count(1), 6);
         due("loops", y.count(5), 1);
         node(y, 5, 5, 4, 9999, 0, 0, -5, 4, 1);
+        y.begin(1);
+        y.open(2);
+        node(y, 2, 5, 1, 1, 1, 0, -5, 2, 0);
+        // node 1 is a loop in the first tree, and none in the next one
+        CheapProofs z = Checks.gameOf("0>0,1>2,2>3");
+        z.begin(0);
+        z.open(1);
+        node(z, 1, 0, 0, 9999, 0, 0, -5, 1, 1);
+        z.begin(1);
+        z.open(1);
+        node(z, 1, 2, 0, 1, 1, 0, -5, 1, 0);
     }
 
     private static void never() {
