@@ -21,7 +21,7 @@ public final class TreeTest {
         loops();
         never();
         full();
-        wayOfFullTree();
+        fullByOne();
         nodeWrong();
         wayWrong();
         deepest();
@@ -200,7 +200,7 @@ public final class TreeTest {
         node(y, 0, 0, -5, 9999, 0, 3, 1, 0, 0);
     }
 
-    /** Seven positions of which each leads to all seven others; nothing can be won. */
+    /** Seven positions of which each leads to eight, itself too, and a way that ends in a loop: nothing is won. */
     private static CheapProofs wide() {
         CheapProofs x = new CheapProofs();
         for (int from = 0; from < 7; from++) {
@@ -236,56 +236,55 @@ public final class TreeTest {
         due("nodes", x.count(1), nodes);
     }
 
-    /** A root with 20 moves to positions with 9 moves or so: 21 and 19 times 9 are 192, the next need 9. */
-    private static CheapProofs bushy(int last) {
+    /** Six positions with nine moves each; 18 leads to 19, and 19 to the first of them. */
+    private static CheapProofs nines() {
         CheapProofs x = new CheapProofs();
-        for (int to = 0; to < 20; to++) {
-            x.addMove(0, to);
+        for (int from = 0; from < 6; from++) {
+            for (int to = 0; to < 9; to++) {
+                x.addMove(from, to);
+            }
         }
-        for (int to = 0; to < 18; to++) {
-            x.addMove(1, to);
-        }
-        for (int to = 0; to < last; to++) {
-            x.addMove(2, to);
-        }
+        x.addMove(18, 19);
+        x.addMove(19, 0);
         return x;
     }
 
-    private static void wayOfFullTree() {
-        // 1 and 2 lead to each other; the ways are opened until fewer than 18 nodes are left
-        CheapProofs x = bushy(19);
-        x.begin(0);
-        due("opened", x.open(100), 5);
-        due("nodes", x.count(1), 1 + 20 + 18 + 19 + 19 + 18);
-        due("decided", x.count(4), 2);
-        // exactly 200 nodes: a chain of one move each fits to the last node
-        CheapProofs y = new CheapProofs();
-        for (int from = 0; from < 6; from++) {
-            for (int to = 0; to < 10; to++) {
-                if (to != from) {
-                    y.addMove(from, to);
-                }
-            }
+    private static void fullByOneNode(int root, int opened, int nodes) {
+        CheapProofs x = nines();
+        x.begin(root);
+        due("open till full, from " + root, x.open(100), opened);
+        due("nodes", x.count(1), nodes);
+        due("the last node", x.node(nodes - 1, 4), 0);
+        due("no node behind", x.node(nodes, 0), -1);
+        due("not decided", x.count(4), 0);
+        due("cost", x.count(2), 1);
+        int recorded = x.count(9);
+        due("open no more", x.open(1), -5);
+        due("open no more", x.open(100), -5);
+        due("nothing is recorded", x.count(9), recorded);
+        due("nodes", x.count(1), nodes);
+        due("the way starts all the same", x.way(0), 0);
+        int depth = 0;
+        while (x.way(depth + 1) >= 0) {
+            depth++;
         }
-        for (int from = 6; from < 10; from++) {
-            y.addMove(from, from - 6);
+        due("its end is a leaf", x.node(x.way(depth), 4), 0);
+        due("the leaf has nine moves", x.position(x.node(x.way(depth), 0), 4), 9);
+        x.begin(root);
+        int steps = 0;
+        while (x.open(1) == 1) {
+            steps++;
         }
-        y.removeMove(0, 1);
-        y.addMove(9, 8);
-        y.begin(0);
-        int sum = 0;
-        int one = y.open(1);
-        while (one == 1) {
-            sum++;
-            one = y.open(1);
-        }
-        due("as many as at once", sum, y.count(6));
-        due("the end", one, -5);
-        int again = y.begin(0);
-        due("begin again", again, 1);
-        int atOnce = y.open(100);
-        due("at once", atOnce, Math.min(sum, 100));
-        due("a way of the full tree", y.count(4) == 0 ? Math.min(0, y.way(0)) : 0, 0);
+        due("as many one after the other", steps, opened);
+    }
+
+    private static void fullByOne() {
+        // 2 + 22 * 9 is 200: the last leaf fits exactly
+        fullByOneNode(19, 23, 200);
+        // 1 + 22 * 9 is 199: one node is left
+        fullByOneNode(0, 22, 199);
+        // 3 + 21 * 9 is 192: eight nodes are left, and nine would be wanted
+        fullByOneNode(18, 23, 192);
     }
 
     private static void nodeWrong() {
