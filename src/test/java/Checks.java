@@ -16,6 +16,10 @@ final class Checks {
         }
     }
 
+    void same(String call, String got, String want) {
+        due(call, got.equals(want) ? 1 : 0, 1);
+    }
+
     int wrong() {
         return wrong;
     }

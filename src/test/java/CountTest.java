@@ -31,11 +31,6 @@ public final class CountTest {
         counts("disproved", x, 6, 1, 9999, 0, 2, 0, 0, 0, 5, 4, 0);
         x.setPosition(3, 0, 0);
         counts("no tree", x, 6, 0, -5, -5, -5, -5, -5, -5, 1, 4, 0);
-        int[] whats = {-1, 11, Integer.MAX_VALUE, Integer.MIN_VALUE};
-        for (int what : whats) {
-            CHECKS.due("count bad", x.count(what), -2);
-            CHECKS.due("count bad of a new object", new CheapProofs().count(what), -2);
-        }
         CHECKS.end();
     }
 }

@@ -1,7 +1,5 @@
-/** Promises 1 to 5, 14 and 15: a new object, positions, guesses and moves, and what is told of them. */
+/** Promises 2 to 5, 14 and 15: positions, guesses and moves, and what is told of them. */
 public final class GameTest {
-    private static final int MOST = Integer.MAX_VALUE;
-    private static final int LEAST = Integer.MIN_VALUE;
     private static final Checks CHECKS = new Checks("GameTest");
 
     private GameTest() {
@@ -12,45 +10,14 @@ public final class GameTest {
     }
 
     public static void main(String[] args) {
-        newObject();
         setPosition();
-        setPositionWrong();
         guess();
-        guessWrong();
         addMove();
-        addMoveFull();
-        addMoveWrong();
         removeMove();
         positionNumbers();
         positionRounds();
-        positionWrong();
         move();
-        treeIsLeft();
-        treeStays();
         CHECKS.end();
-    }
-
-    private static void newObject() {
-        CheapProofs x = new CheapProofs();
-        for (int p = 0; p < 20; p++) {
-            due("new: turn", x.position(p, 0), 0);
-            due("new: mark", x.position(p, 1), 0);
-            due("new: guess to prove", x.position(p, 2), 1);
-            due("new: guess to disprove", x.position(p, 3), 1);
-            due("new: moves", x.position(p, 4), 0);
-            due("new: end", x.position(p, 5), 1);
-            due("new: wins", x.position(p, 6), 0);
-            due("new: round", x.position(p, 7), -5);
-            due("new: move", x.move(p, 0), -5);
-        }
-        due("new: node", x.node(0, 0), -1);
-        due("new: undo", x.undo(), -5);
-        due("new: restore", x.restore(), -5);
-        due("new: clearText", x.clearText(), 0);
-        int[] counts = {0, 0, -5, -5, -5, -5, -5, -5, 0, 0, 0};
-        for (int what = 0; what < counts.length; what++) {
-            due("new: count " + what, x.count(what), counts[what]);
-        }
     }
 
     private static void setPosition() {
@@ -68,22 +35,6 @@ public final class GameTest {
         due("other position", x.position(18, 0), 0);
     }
 
-    private static void setPositionWrong() {
-        CheapProofs x = new CheapProofs();
-        int[] positions = {-1, 20, MOST, LEAST};
-        for (int p : positions) {
-            due("set unknown", x.setPosition(p, 0, 1), -1);
-            due("set unknown before bad", x.setPosition(p, 2, 3), -1);
-        }
-        int[] turns = {-1, 2, MOST, LEAST};
-        int[] marks = {-1, 3, MOST, LEAST};
-        for (int i = 0; i < turns.length; i++) {
-            due("set bad turn", x.setPosition(0, turns[i], 0), -2);
-            due("set bad mark", x.setPosition(0, 0, marks[i]), -2);
-        }
-        due("nothing is recorded", x.count(9), 0);
-    }
-
     private static void guess() {
         CheapProofs x = new CheapProofs();
         due("guess", x.guess(0, 9, 1), 1);
@@ -94,21 +45,6 @@ public final class GameTest {
         due("disprove", x.position(0, 3), 9);
         due("history", x.count(9), 3);
         due("as at first", x.guess(1, 1, 1), -5);
-    }
-
-    private static void guessWrong() {
-        CheapProofs x = new CheapProofs();
-        int[] positions = {-1, 20, MOST, LEAST};
-        for (int p : positions) {
-            due("guess unknown", x.guess(p, 1, 2), -1);
-            due("guess unknown before bad", x.guess(p, 0, 10), -1);
-        }
-        int[] guesses = {0, 10, -1, MOST, LEAST};
-        for (int g : guesses) {
-            due("guess bad prove", x.guess(0, g, 1), -2);
-            due("guess bad disprove", x.guess(0, 1, g), -2);
-        }
-        due("nothing is recorded", x.count(9), 0);
     }
 
     private static void addMove() {
@@ -127,37 +63,6 @@ public final class GameTest {
         due("order 2", x.move(0, 2), 1);
         due("order 19", x.move(0, 19), 18);
         due("order of the next position", x.move(1, 0), -5);
-    }
-
-    private static void addMoveFull() {
-        CheapProofs x = new CheapProofs();
-        for (int i = 0; i < 60; i++) {
-            due("add " + i, x.addMove(i / 20, i % 20), i % 20 + 1);
-        }
-        due("moves in all", x.count(0), 60);
-        x.keep();
-        due("full", x.addMove(3, 0), -3);
-        due("there already, ahead of full", x.addMove(2, 19), -5);
-        due("unknown, ahead of full", x.addMove(3, 20), -1);
-        due("moves in all", x.count(0), 60);
-        due("history", x.count(9), 4);
-        due("remove", x.removeMove(2, 0), 19);
-        due("room again", x.addMove(3, 0), 1);
-        due("full again", x.addMove(3, 1), -3);
-    }
-
-    private static void addMoveWrong() {
-        CheapProofs x = new CheapProofs();
-        int[] positions = {-1, 20, MOST, LEAST};
-        for (int p : positions) {
-            due("add from unknown", x.addMove(p, 0), -1);
-            due("add to unknown", x.addMove(0, p), -1);
-            due("remove from unknown", x.removeMove(p, 0), -1);
-            due("remove to unknown", x.removeMove(0, p), -1);
-        }
-        due("remove what is not there", x.removeMove(0, 0), -1);
-        due("nothing is recorded", x.count(9), 0);
-        due("no moves", x.count(0), 0);
     }
 
     private static void removeMove() {
@@ -210,32 +115,6 @@ public final class GameTest {
         due("round of 7", x.position(7, 7), 1);
         due("round of 6", x.position(6, 7), 2);
         due("round of 8", x.position(8, 7), 2);
-        // a chain against the numbers' order takes as many rounds as with it
-        CheapProofs y = new CheapProofs();
-        CheapProofs z = new CheapProofs();
-        for (int p = 0; p < 19; p++) {
-            y.addMove(p, p + 1);
-            z.addMove(p + 1, p);
-        }
-        y.setPosition(19, 0, 1);
-        z.setPosition(0, 0, 1);
-        for (int p = 0; p < 20; p++) {
-            due("chain down", y.position(p, 7), 19 - p);
-            due("chain up", z.position(p, 7), p);
-        }
-    }
-
-    private static void positionWrong() {
-        CheapProofs x = new CheapProofs();
-        int[] positions = {-1, 20, MOST, LEAST};
-        for (int p : positions) {
-            due("position unknown", x.position(p, 0), -1);
-            due("position unknown before bad", x.position(p, 8), -1);
-        }
-        int[] whats = {-1, 8, MOST, LEAST};
-        for (int what : whats) {
-            due("position bad", x.position(0, what), -2);
-        }
     }
 
     private static void move() {
@@ -243,50 +122,6 @@ public final class GameTest {
         due("move", x.move(0, 0), 3);
         due("move", x.move(0, 1), 0);
         due("move", x.move(19, 0), 5);
-        int[] ranks = {2, 20, MOST};
-        for (int rank : ranks) {
-            due("no such rank", x.move(0, rank), -5);
-        }
-        due("bad rank", x.move(0, -1), -2);
-        due("bad rank", x.move(0, LEAST), -2);
-        int[] positions = {-1, 20, MOST, LEAST};
-        for (int p : positions) {
-            due("move unknown", x.move(p, 0), -1);
-            due("move unknown before bad", x.move(p, -1), -1);
-        }
-    }
-
-    private static void treeIsLeft() {
-        CheapProofs x = Checks.gameOf("0>1");
-        x.begin(0);
-        x.setPosition(5, 1, 0);
-        due("no tree after setPosition", x.count(1), 0);
-        x.begin(0);
-        x.guess(5, 2, 2);
-        due("no tree after guess", x.count(1), 0);
-        x.begin(0);
-        x.addMove(5, 5);
-        due("no tree after addMove", x.count(1), 0);
-        x.begin(0);
-        x.removeMove(5, 5);
-        due("no tree after removeMove", x.count(1), 0);
-    }
-
-    private static void treeStays() {
-        CheapProofs x = Checks.gameOf("0>1");
-        x.begin(0);
-        int recorded = x.count(9);
-        x.setPosition(5, 0, 0);
-        x.setPosition(5, 0, 3);
-        x.setPosition(20, 0, 1);
-        x.guess(5, 1, 1);
-        x.guess(5, 1, 0);
-        x.guess(-1, 2, 2);
-        x.addMove(0, 1);
-        x.addMove(0, 20);
-        x.removeMove(0, 2);
-        x.removeMove(20, 0);
-        due("tree stays", x.count(1), 1);
-        due("nothing is recorded", x.count(9), recorded);
+        due("no such rank", x.move(0, 2), -5);
     }
 }

@@ -11,8 +11,6 @@ public final class HistoryTest {
 
     public static void main(String[] args) {
         undoOfEachAct();
-        fourStates();
-        oldestIsDropped();
         undoOfTree();
         undoOfEachNode();
         keepAndRestore();
@@ -55,40 +53,6 @@ public final class HistoryTest {
         due("undo of restore", x.undo(), 2);
         due("mark", x.position(7, 1), 1);
         due("text stays", x.count(10), 7);
-    }
-
-    private static void fourStates() {
-        CheapProofs x = new CheapProofs();
-        for (int to = 0; to < 6; to++) {
-            due("add", x.addMove(0, to), to + 1);
-            due("states", x.count(9), Math.min(4, to + 1));
-        }
-        for (int left = 3; left >= 0; left--) {
-            due("undo", x.undo(), left);
-            due("moves", x.count(0), left + 2);
-            due("states", x.count(9), left);
-        }
-        due("undo", x.undo(), -5);
-        due("moves", x.count(0), 2);
-    }
-
-    private static void oldestIsDropped() {
-        CheapProofs x = new CheapProofs();
-        for (int round = 0; round < 30; round++) {
-            x.guess(0, 2 + round % 8, 1);
-            if (round % 7 == 6) {
-                x.undo();
-                due("guess", x.position(0, 2), 2 + (round - 1) % 8);
-            }
-        }
-        int last = x.position(0, 2);
-        due("guess", last, 2 + 29 % 8);
-        int left = 4;
-        while (left > 0) {
-            left--;
-            due("undo", x.undo(), left);
-        }
-        due("undo", x.undo(), -5);
     }
 
     private static void undoOfTree() {

@@ -1,7 +1,6 @@
 /** Promises 18 and 19: proofs that are played out, and their size. */
 public final class ProofTest {
     private static final int MOST = Integer.MAX_VALUE;
-    private static final int LEAST = Integer.MIN_VALUE;
     private static final Checks CHECKS = new Checks("ProofTest");
 
     private ProofTest() {
@@ -15,9 +14,6 @@ public final class ProofTest {
         proved();
         disproved();
         rowOfAnswers();
-        rootAlone();
-        proofAfterProof();
-        wrong();
         CHECKS.end();
     }
 
@@ -72,51 +68,5 @@ public final class ProofTest {
             due("its position", x.node(end, 0), position);
         }
         due("size", x.proofSize(), 13);
-    }
-
-    private static void rootAlone() {
-        CheapProofs x = Checks.gameOf("0w,1l,0>1,1>0");
-        x.begin(0);
-        played(x, 5, 0, 0, 0);
-        due("size", x.proofSize(), 1);
-        x.begin(1);
-        played(x, 5, 0, 1, 0);
-        due("size", x.proofSize(), 1);
-    }
-
-    private static void proofAfterProof() {
-        CheapProofs x = Checks.gameOf("0d,0>1.2.3,1w,2w,3w,4>1.2.3.5");
-        x.begin(0);
-        x.open(1);
-        due("size", x.proofSize(), 4);
-        due("size again", x.proofSize(), 4);
-        x.begin(4);
-        x.open(1);
-        due("size of the next one", x.proofSize(), 2);
-    }
-
-    private static void wrong() {
-        CheapProofs x = Checks.gameOf("0>1,1>2");
-        int[] bad = {-1, LEAST};
-        int[] whats = {-1, 3, MOST, LEAST};
-        for (int state = 0; state < 3; state++) {
-            for (int b : bad) {
-                due("bad answers", x.playOut(b, 0), -2);
-            }
-            for (int what : whats) {
-                due("bad what", x.playOut(0, what), -2);
-            }
-            if (state < 2) {
-                due("not possible", x.playOut(0, 0), -4);
-                due("not possible", x.proofSize(), -4);
-            }
-            if (state == 0) {
-                x.begin(0);
-            } else {
-                x.open(100);
-            }
-        }
-        due("possible", x.playOut(0, 0), 2);
-        due("possible", x.proofSize(), 3);
     }
 }

@@ -1,4 +1,4 @@
-/** Promises 6, 9 and 10: the text, and the game that is read from it. */
+/** Promises 6, 9 and 10: the text, its faults, and the game that is read from it. */
 public final class TextTest {
     private static final Checks CHECKS = new Checks("TextTest");
 
@@ -10,40 +10,11 @@ public final class TextTest {
     }
 
     public static void main(String[] args) {
-        type();
-        clearText();
         goodTexts();
         faults();
         faultOfEachSign();
         whatIsRead();
-        whatStays();
-        faultsChangeNothing();
-        longTexts();
         CHECKS.end();
-    }
-
-    private static void type() {
-        CheapProofs x = new CheapProofs();
-        for (int i = 1; i <= 60; i++) {
-            due("type", x.type((char) (i * 1000)), i);
-        }
-        due("type full", x.type('0'), -3);
-        due("type full again", x.type((char) 0), -3);
-        due("length", x.count(10), 60);
-        due("no state of the text", x.count(9), 0);
-        due("clear", x.clearText(), 60);
-        due("type", x.type((char) 65535), 1);
-    }
-
-    private static void clearText() {
-        CheapProofs x = new CheapProofs();
-        due("clear empty", x.clearText(), 0);
-        Checks.typeAll(x, "0w");
-        due("clear", x.clearText(), 2);
-        due("length", x.count(10), 0);
-        due("clear again", x.clearText(), 0);
-        due("read empty", x.readGame(), -100);
-        due("no state of the text", x.count(9), 0);
     }
 
     private static int read(String text) {
@@ -124,52 +95,5 @@ public final class TextTest {
         due("the mark of the former text is gone", x.position(4, 1), 0);
         due("the moves of the former text are gone", x.position(6, 4), 0);
         due("move", x.move(1, 0), 4);
-    }
-
-    private static void whatStays() {
-        CheapProofs x = Checks.gameOf("0>1,1w");
-        Checks.typeAll(x, "0>1,1w");
-        x.begin(0);
-        due("read the same", x.readGame(), 1);
-        due("no tree then", x.count(1), 0);
-        due("it is recorded", x.count(9), 3);
-        due("the text stays", x.count(10), 6);
-        due("read again", x.readGame(), 1);
-        due("it is recorded", x.count(9), 4);
-        due("undo", x.undo(), 3);
-        due("undo", x.undo(), 2);
-        due("the tree is back", x.count(1), 1);
-        due("the text stays", x.count(10), 6);
-    }
-
-    private static void faultsChangeNothing() {
-        CheapProofs x = Checks.gameOf("0>1,1w,2d");
-        x.begin(0);
-        Checks.typeAll(x, "0l,0d,5>6.7,8w,9");
-        due("fault", x.readGame(), -116);
-        due("nothing is recorded", x.count(9), 2);
-        due("moves", x.count(0), 1);
-        due("mark", x.position(0, 1), 0);
-        due("mark", x.position(1, 1), 1);
-        due("turn", x.position(2, 0), 1);
-        due("mark", x.position(8, 1), 0);
-        due("tree", x.count(1), 1);
-        due("text", x.count(10), 16);
-        Checks.typeAll(x, "w,9>9");
-        due("read now", x.readGame(), 3);
-        due("mark", x.position(1, 1), 0);
-    }
-
-    private static void longTexts() {
-        String most = "0>0.1.2.3.4.5.6.7.8.9,1>0.1.2.3.4.5.6.7.8.9,2>1.2.3.4.5.6.7w";
-        due("the length", most.length(), 60);
-        due("fault at the end", read(most), -159);
-        due("59 signs", read(most.substring(0, 59)), 27);
-        due("60 signs", read(most.substring(0, 58) + "17"), 27);
-        due("signs behind are not typed", read(most.substring(0, 58) + "17xyz"), 27);
-        due("60 signs, ends too early", read(most.substring(0, 59) + "."), -160);
-        due("60 signs, ends too early", read(most.substring(0, 59) + ","), -160);
-        due("ends too early", read("0w," + "0w,".repeat(19)), -160);
-        due("20 entries", read("0w," + "0w,".repeat(18) + "19w"), 0);
     }
 }
