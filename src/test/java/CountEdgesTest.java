@@ -72,6 +72,21 @@ public final class CountEdgesTest extends Cases {
         due("three", x.count(5), 3);
     }
 
+    /** "5 for loops in the tree", "6 for leaves that were opened in it": a former tree's next node is not in it */
+    void nodesOfAFormerTreeDoNotCount() {
+        CheapProofs x = Checks.gameOf("0>0.1,1>2,3>1,2>2");
+        x.begin(0);
+        x.open(1);
+        due("a loop", x.count(5), 1);
+        x.begin(1);
+        due("no loop", x.count(5), 0);
+        x.begin(3);
+        x.open(2);
+        x.begin(1);
+        due("none opened", x.count(6), 0);
+        due("depth", x.count(7), 0);
+    }
+
     /** "6 for leaves that were opened in it": none of a root, and as many as open() told, one after the other or not */
     void noLeafOpenedAndMore() {
         CheapProofs x = Scenes.ring();

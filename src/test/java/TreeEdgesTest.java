@@ -449,6 +449,24 @@ public final class TreeEdgesTest extends Cases {
         due("no more", x.way(20), -5);
     }
 
+    /** "up to a leaf (which is always open)": no end and no loop, though the tree has both */
+    void wayEndsAtAnOpenLeaf() {
+        CheapProofs x = Checks.gameOf("0>1.2.5,1d,1>0.2.3,2d,2>1.3.4,3>3.4.0,4d,4>2.6.0,6w,5>5");
+        x.begin(0);
+        int leaves = 0;
+        while (x.count(4) == 0 && leaves < 100) {
+            int leaf = x.way(lengthOfWay(x) - 1);
+            due("no end", x.position(x.node(leaf, 0), 5), 0);
+            due("no loop", x.node(leaf, 7), 0);
+            due("no child", x.node(leaf, 4), 0);
+            due("open", x.open(1), 1);
+            due("it is the one that was opened", x.node(leaf, 4), x.position(x.node(leaf, 0), 4));
+            leaves++;
+        }
+        due("disproved", x.count(4), 2);
+        due("leaves", leaves, 5);
+    }
+
     /** "(or would be, if there was room)": of a tree of 200 nodes, and of one with a node left */
     void wayOfAFullTree() {
         int[] roots = {19, 0, 18, 17};
