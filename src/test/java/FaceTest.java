@@ -29,6 +29,8 @@ public final class FaceTest {
         String source = Files.readString(Path.of("src/main/java/CheapProofs.java"));
         String code = source.replaceAll("(?s)/\\*.*?\\*/", "").replaceAll("//[^\n]*", "");
         words(code);
+        library(code);
+        lengths(code);
         signs(source);
         CHECKS.end();
     }
@@ -40,9 +42,6 @@ public final class FaceTest {
                 CHECKS.due(field.getName() + " is a constant", field.getModifiers(),
                     Modifier.PUBLIC | Modifier.STATIC | Modifier.FINAL);
                 found.put(field.getName(), field.getInt(null));
-            }
-            if (Modifier.isStatic(field.getModifiers())) {
-                CHECKS.due(field.getName() + " is final", Modifier.isFinal(field.getModifiers()) ? 1 : 0, 1);
             }
         }
         String wants = "{BAD_VALUE=-2, FULL=-3, NONE=-5, NOT_POSSIBLE=-4, UNKNOWN=-1}";
@@ -79,7 +78,23 @@ public final class FaceTest {
             CHECKS.due(inside.getName() + " is static", Modifier.isStatic(inside.getModifiers()) ? 1 : 0, 1);
             CHECKS.due(inside.getName() + " is not public",
                 inside.getModifiers() & (Modifier.PUBLIC | Modifier.PROTECTED), 0);
+            fields(inside);
         }
+        fields(CheapProofs.class);
+        CHECKS.due("at most twelve classes", CheapProofs.class.getDeclaredClasses().length < 12 ? 1 : 0, 1);
+    }
+
+    /** Rules 5 and 11: static fields are final, and a class has some twenty others. */
+    private static void fields(Class<?> owner) {
+        int own = 0;
+        for (Field field : owner.getDeclaredFields()) {
+            if (Modifier.isStatic(field.getModifiers())) {
+                CHECKS.due(field + " is final", Modifier.isFinal(field.getModifiers()) ? 1 : 0, 1);
+            } else {
+                own++;
+            }
+        }
+        CHECKS.due("fields of " + owner.getName(), own <= 20 ? 1 : 0, 1);
     }
 
     private static void words(String code) {
@@ -94,6 +109,33 @@ public final class FaceTest {
             }
             CHECKS.due("how often the source has " + word, count, 0);
         }
+    }
+
+    /** Rules 3 and 4: each type is one of the class's own, and each function of the library is one that it may use. */
+    private static void library(String code) {
+        TreeSet<String> known = new TreeSet<>(List.of("CheapProofs", "Math.max", "Math.min", "System.arraycopy"));
+        for (Class<?> inside : CheapProofs.class.getDeclaredClasses()) {
+            known.add(inside.getSimpleName());
+        }
+        Matcher m = Pattern.compile("\\b[A-Z]\\w*[a-z]\\w*(\\.[a-z]\\w*)?").matcher(code);
+        TreeSet<String> strange = new TreeSet<>();
+        while (m.find()) {
+            strange.add(m.group());
+        }
+        strange.removeAll(known);
+        CHECKS.due("names of the library " + strange, strange.size(), 0);
+    }
+
+    /** Rule 11: a method has at most sixty lines. */
+    private static void lengths(String code) {
+        Matcher m = Pattern.compile("(?ms)^( {4}| {8})\\w[^\n;=]*\\) \\{\n.*?^\\1\\}$").matcher(code);
+        int methods = 0;
+        while (m.find()) {
+            methods++;
+            int lines = (int) m.group().lines().count();
+            CHECKS.due("lines of " + m.group().lines().findFirst().orElse(""), lines <= 60 ? 1 : 0, 1);
+        }
+        CHECKS.due("methods are found", methods > METHODS.length ? 1 : 0, 1);
     }
 
     private static void signs(String source) {
